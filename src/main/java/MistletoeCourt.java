@@ -2,6 +2,8 @@
 public final class MistletoeCourt {
     public static final int NONE = -1, UNKNOWN = -101, OUTSIDE = -102, STATE = -103, FULL = -104;
 
+    private static final int LEAST_CODE = 32;
+    private static final int MOST_CODE = 126;
     private static final int MOST_LETTERS = 46;
     private static final int MOST_TREES = 3;
     private static final int MOST_SUITS = 7;
@@ -14,6 +16,7 @@ public final class MistletoeCourt {
     private static final int MOST_DIGIT = 9;
     private static final int MOST_YEARS_AHEAD = 3;
     private static final int MOST_TIMES = 60;
+    private static final int FIRST_PLACE_ASKED = 10;
 
     private static final String KIND_LETTERS = "cmuoa";
     private static final int CASE = 0, MARRIAGE = 1, MURDER = 2, OAK = 3, ACCIDENT = 4;
@@ -44,7 +47,7 @@ public final class MistletoeCourt {
     // ---- the shire
 
     public int letter(int code) {
-        if (code < 32 || code > 126) {
+        if (code < LEAST_CODE || code > MOST_CODE) {
             return OUTSIDE;
         }
         if (page.size() >= MOST_LETTERS) {
@@ -184,7 +187,7 @@ public final class MistletoeCourt {
     // ---- what would be
 
     public int plan(int what) {
-        boolean isPlace = what >= 10 && what < 10 + MOST_SUITS;
+        boolean isPlace = what >= FIRST_PLACE_ASKED && what < FIRST_PLACE_ASKED + MOST_SUITS;
         if (what != 0 && what != 1 && !isPlace) {
             return OUTSIDE;
         }
@@ -194,7 +197,7 @@ public final class MistletoeCourt {
         plans++;
         planner.seek();
         if (isPlace) {
-            return planner.placeOf(what - 10);
+            return planner.placeOf(what - FIRST_PLACE_ASKED);
         }
         return what == 0 ? planner.holds() : planner.spent();
     }
@@ -542,6 +545,7 @@ public final class MistletoeCourt {
             straight.put(suit, 0);
             below.put(suit, 0);
             straight.put(hangsOn, straight.at(hangsOn) + 1);
+            // A chain of cases goes to ever lower numbers, so it is never longer than there are cases.
             int above = hangsOn;
             for (int level = 0; level < MOST_SUITS && above != NONE; level++) {
                 below.put(above, below.at(above) | bit(suit));
