@@ -20,6 +20,10 @@ final class Check {
         due(what, holds ? 1 : 0, 1);
     }
 
+    int made() {
+        return made;
+    }
+
     boolean hasWrong() {
         return wrong > 0;
     }

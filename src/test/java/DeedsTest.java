@@ -14,7 +14,6 @@ public final class DeedsTest {
         birds();
         pleas();
         walks();
-        full();
         CHECK.end();
     }
 
@@ -216,29 +215,5 @@ public final class DeedsTest {
         CHECK.due("walk(-1)", court.walk(-1), MistletoeCourt.UNKNOWN);
         court.walk(1);
         CHECK.due("walk of the last one", court.walk(2), 0);
-    }
-
-    /** Behind the 512th call answers are free, but so the two refusals are looked at, too. */
-    private static void full() {
-        MistletoeCourt court = Check.read("99;c11-,c91-");
-        for (int number = 1; number <= 999; number++) {
-            CHECK.due("year " + number, court.year(), number);
-            CHECK.due("right number " + number, court.right(0, 0), 0);
-            court.walk(0);
-        }
-        CHECK.due("year 1000", court.year(), MistletoeCourt.FULL);
-        CHECK.due("right number 1000", court.right(0, 0), MistletoeCourt.FULL);
-        CHECK.due("berries behind refusals", court.tree(0, 0), 19);
-        CHECK.due("unknown comes before full", court.right(2, 0), MistletoeCourt.UNKNOWN);
-        CHECK.due("years", court.count(6), 999);
-        CHECK.due("how often any was righted", court.count(7), 999);
-        MistletoeCourt bare = Check.read("10;c11-,c91-");
-        for (int number = 1; number <= 999; number++) {
-            bare.right(0, 0);
-            bare.walk(0);
-            bare.birds(0, number < 999 ? 1 : 0);
-            bare.year();
-        }
-        CHECK.due("state comes before full", bare.right(0, 0), MistletoeCourt.STATE);
     }
 }
