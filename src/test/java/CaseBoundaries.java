@@ -451,6 +451,14 @@ final class CaseBoundaries extends Sentences {
         check.due("seven needs that cost 1", six.suit(0, 9), 1);
     }
 
+    static void promise07NeedsThatCostTheSameAreNotToldApart(Check check) {
+        // With one hanging on it, an accident of need 8 costs 4, and so does one of need 9.
+        MistletoeCourt court = Check.read("00;a11-,c110");
+        court.see(0, 3, false);
+        check.due("needs", court.suit(0, 8), 384);
+        check.due("any try leaves both", court.suit(0, 9), 1);
+    }
+
     static void promise07TriesGoAbove9(Check check) {
         MistletoeCourt court = Check.read("00;u11-,c11-");
         court.see(0, 14, false);

@@ -370,6 +370,17 @@ final class PlanBoundaries extends Sentences {
         game(check, Check.read("70;c11-,c12-,c13-,c14-,c15-,c16-,c17-"), 0, 104, 6);
     }
 
+    static void promise15BehindALargerShireItIsOfTheNewOne(Check check) {
+        MistletoeCourt court = Check.read("90;c11-,c12-,c19-,c14-,c15-,c16-,c17-");
+        court.game(0, 0);
+        Check.type(court, "90;c11-,c13-");
+        court.shire();
+        game(check, court, 0, 102, 1);
+        Check.type(court, "90;c11-,c13-,c15-");
+        court.shire();
+        game(check, court, 0, 103, 2);
+    }
+
     static void promise15ItIsPlayedAtOneTreeAlone(Check check) {
         MistletoeCourt court = Check.read("00,10,20;c15-,c13-");
         game(check, court, 0, 100, NONE);

@@ -281,6 +281,33 @@ final class SightBoundaries extends Sentences {
         }
     }
 
+    static void promise19AnOakThatMayBeIsRighted(Check check) {
+        MistletoeCourt onNone = Check.read("90;c99-,o11-");
+        MistletoeCourt onCase1 = Check.read("90;c92-,c11-,o131");
+        onCase1.right(1, 0);
+        for (int seed = 0; seed < 20; seed++) {
+            check.due("on none, by " + seed, onNone.centuries(1, seed, 1), drawn(seed, 1, 2) == 0 ? 9 : 1);
+            check.due("on case 1, by " + seed, onCase1.centuries(1, seed, 1), drawn(seed, 1, 3) == 2 ? 4 : 1);
+        }
+    }
+
+    static void promise19AMarriageCostsLessByWhatHangsOnIt(Check check) {
+        MistletoeCourt court = Check.read("10;m39-,c910,c910");
+        for (int seed = 0; seed < 20; seed++) {
+            check.due("what holds by " + seed, court.centuries(1, seed, 1), drawn(seed, 1, 3) == 0 ? 9 : 0);
+        }
+    }
+
+    static void promise19BehindAnotherShireItIsOfThat(Check check) {
+        MistletoeCourt court = Check.read("99,99,99;o11-,m130,a121,u112,c113,c124,c135");
+        court.centuries(60, 1, 0);
+        Check.type(court, "01;c15-,o15-");
+        court.shire();
+        check.due("how often in 1", court.centuries(1, 3, 0), 0);
+        check.due("how often in 2", court.centuries(2, 3, 0), 1);
+        check.due("what holds behind 2", court.centuries(2, 3, 1), 5);
+    }
+
     static void promise19WhatIsReopenedIsRightedAgain(Check check) {
         // Case 1 once more if it comes ahead of case 0.
         MistletoeCourt court = Check.read("99;c11-,c110");

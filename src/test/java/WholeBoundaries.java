@@ -200,7 +200,11 @@ final class WholeBoundaries extends Sentences {
         court.see(1, 3, false);
         court.image();
         court.forget();
-        court.see(0, 1, true);
+        // Other cases, other berries, and the other way, at each of the eight.
+        for (int number = 1; number <= 7; number++) {
+            court.see(1, 2, false);
+        }
+        court.see(0, 5, true);
         court.restore();
         check.due("seen", court.count(8), 8);
         check.due("of case 0", court.suit(0, 8), 511);
