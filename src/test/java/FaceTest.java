@@ -4,6 +4,8 @@ import java.lang.reflect.Method;
 import java.lang.reflect.Modifier;
 import java.nio.file.Files;
 import java.nio.file.Path;
+import java.util.ArrayList;
+import java.util.List;
 import java.util.Set;
 import java.util.TreeSet;
 
@@ -23,6 +25,7 @@ public final class FaceTest {
         constants();
         members();
         nestedClasses();
+        methods();
         source();
         CHECK.end();
     }
@@ -85,6 +88,29 @@ public final class FaceTest {
                 fields += Modifier.isStatic(field.getModifiers()) ? 0 : 1;
             }
             CHECK.isTrue(one.getName() + " has some twenty fields at most", fields <= 20);
+        }
+    }
+
+    private static void methods() throws Exception {
+        List<Class<?>> classes = new ArrayList<>(List.of(MistletoeCourt.class.getDeclaredClasses()));
+        classes.add(MistletoeCourt.class);
+        for (Class<?> one : classes) {
+            for (Method method : one.getDeclaredMethods()) {
+                String name = one.getName() + "." + method.getName();
+                CHECK.isTrue(name + " has seven parameters at most", method.getParameterCount() <= 7);
+                CHECK.isTrue(name + " is not private by the name of a public one", !Modifier.isPrivate(method.getModifiers())
+                    || METHODS.stream().noneMatch(face -> face.contains(" " + method.getName() + "(")));
+            }
+        }
+        int first = 0;
+        List<String> lines = Files.readAllLines(SOURCE);
+        for (int line = 0; line < lines.size(); line++) {
+            // A method's head ends with "{" at the depth of a class's members, its end is the next "}" there.
+            if (lines.get(line).matches("(    |        )(?!if |for |while |switch )\\w.*\\) \\{")) {
+                first = line;
+            } else if (lines.get(line).matches("(    |        )\\}")) {
+                CHECK.isTrue("the method at line " + (first + 1) + " is short", line - first < 60);
+            }
         }
     }
 
